@@ -1,0 +1,293 @@
+/** Promises 17 to 24: answers. */
+public final class AnswersTest {
+    private static final Check check = new Check();
+
+    public static void main(String[] args) {
+        offs();
+        nearest();
+        worst();
+        rights();
+        threes();
+        threesOfManyLargeNumbers();
+        slopes();
+        others();
+        worths();
+        check.end("AnswersTest");
+    }
+
+    private static BinsThatTell town() {
+        BinsThatTell x = new BinsThatTell();
+        x.sort(50, 1, 100);
+        x.sort(50, 3, 100);
+        x.sort(50, 3, 100);
+        x.sort(50, -2, 100);
+        x.street(10);
+        x.street(20);
+        return x;
+    }
+
+    /** Tells SHOP and SAID of a CELL. */
+    private static void said(BinsThatTell x, int sort, int cell, int way, int shop, int said) {
+        x.put(1, cell, sort, shop);
+        x.put(2 + way, cell, sort, said);
+    }
+
+    private static void offs() {
+        BinsThatTell x = town();
+        check.same("no cells", x.off(0, 0), 0);
+        check.noRow("no cells", x, 0);
+        said(x, 0, 0, 1, 10, 4);
+        said(x, 0, 13, 1, 10, 12);
+        said(x, 0, 23, 1, 100, 101);
+        x.put(1, 5, 0, 500);
+        x.put(3, 6, 0, 500);
+        check.same("off(0, 1)", x.off(0, 1), 3);
+        check.row("off(0, 1)", x, -1, 1, -6, 2);
+        said(x, 0, 7, 1, 3, 9);
+        check.same("off(0, 1)", x.off(0, 1), 4);
+        check.row("off(0, 1)", x, 3, 4, -6, 6);
+        check.same("no cells", x.off(0, 2), 0);
+        check.row("the row stays", x, 3, 4, -6, 6);
+        check.same("sort 4", x.off(4, 0), -1);
+        check.same("sort -1", x.off(-1, 0), -1);
+        check.same("way 4", x.off(0, 4), -1);
+        check.same("way -1", x.off(0, -1), -1);
+        said(x, 1, 0, 3, 5, 5);
+        check.same("way 3", x.off(1, 3), 1);
+        check.row("way 3", x, 0, 1, 0, 0);
+    }
+
+    private static void nearest() {
+        BinsThatTell x = town();
+        check.same("none", x.nearest(0), -2);
+        check.same("sort 4", x.nearest(4), -1);
+        check.same("sort -1", x.nearest(-1), -1);
+        said(x, 0, 0, 3, 10, 16);
+        check.same("one way", x.nearest(0), 3);
+        check.row("one way", x, 1, 0);
+        x.put(3, 0, 0, 4);
+        check.same("alike in size: the first", x.nearest(0), 1);
+        check.row("alike", x, 0, 1);
+        said(x, 0, 1, 3, 10, 10);
+        said(x, 0, 2, 3, 10, 9);
+        // Way 3: 5 by 3; way 1: -6 by 1.
+        check.same("the mean counts", x.nearest(0), 3);
+        check.row("the mean counts", x, 1, 1);
+        x.put(4, 2, 0, 8);
+        check.same("-2 is farther than 5 by 3", x.nearest(0), 3);
+        x.put(2, 2, 0, 9);
+        check.same("-1 is nearer", x.nearest(0), 0);
+        check.row("-1 is nearer", x, 0, 1);
+        check.same("none", x.nearest(1), -2);
+        check.row("the row stays", x, 0, 1);
+    }
+
+    private static void worst() {
+        BinsThatTell x = town();
+        check.same("none", x.worst(0, 0), -2);
+        said(x, 1, 0, 0, 10, 8);
+        check.same("the only one", x.worst(0, 0), 1);
+        check.row("the only one", x, -2, 1);
+        said(x, 2, 0, 0, 10, 8);
+        said(x, 2, 1, 0, 10, 7);
+        check.same("greatest", x.worst(0, 0), 1);
+        check.row("greatest", x, -2, 1);
+        check.same("least", x.worst(0, 1), 2);
+        check.row("least", x, -5, 2);
+        said(x, 3, 0, 0, 10, 8);
+        check.same("of equal ones the first", x.worst(0, 0), 1);
+        x.put(2, 0, 3, 5);
+        said(x, 3, 12, 0, 10, 10);
+        check.same("of equal ones the first", x.worst(0, 1), 2);
+        check.row("of equal ones the first", x, -5, 2);
+        check.same("none", x.worst(1, 0), -2);
+        check.same("way 4", x.worst(4, 0), -1);
+        check.same("way -1", x.worst(-1, 0), -1);
+        check.same("what 2", x.worst(0, 2), -1);
+        check.same("what -1", x.worst(0, -1), -1);
+        check.row("the row stays", x, -5, 2);
+    }
+
+    private static void rights() {
+        BinsThatTell x = town();
+        check.same("no cells", x.right(2), 0);
+        check.row("no cells", x, 0, 0);
+        // RIGHT 1, 3, 3, -2; MEANS 0, 2, -1, 0.
+        said(x, 0, 0, 2, 10, 10);
+        said(x, 1, 0, 2, 10, 12);
+        said(x, 2, 0, 2, 10, 9);
+        check.same("three sorts", x.right(2), 1);
+        check.row("three sorts", x, 1, 1);
+        said(x, 3, 0, 2, 10, 10);
+        // With the fourth one: 0 and it alike; 1 greater; 2 lesser.
+        check.same("four sorts", x.right(2), 2);
+        check.row("four sorts", x, 2, 2);
+        check.same("way 4", x.right(4), -1);
+        check.same("way -1", x.right(-1), -1);
+        check.row("the row stays", x, 2, 2);
+        check.same("another way", x.right(0), 0);
+        check.row("another way", x, 0, 0);
+    }
+
+    /** Tells BAG, SHOP and SAID of a CELL. */
+    private static void three(BinsThatTell x, int cell, int bag, int shop, int said) {
+        x.put(0, cell, 0, bag);
+        said(x, 0, cell, 2, shop, said);
+    }
+
+    private static void threes() {
+        BinsThatTell x = town();
+        check.same("no cells", x.three(0, 2), -2);
+        three(x, 0, 1, 2, 1);
+        check.same("one cell", x.three(0, 2), -2);
+        three(x, 13, 2, 1, 5);
+        three(x, 5, 4, 9, 2);
+        x.put(0, 7, 0, 100);
+        x.put(1, 7, 0, 100);
+        // Sums 7, 12, 8; bag by shop 40 of 3 times: 120 - 84 = 36; bag by said 19: 57 - 56 = 1;
+        // shop by said 25: 75 - 96 = -21; of themselves 63 - 49 = 14, 258 - 144 = 114, 90 - 64 = 26.
+        check.same("three(0, 2)", x.three(0, 2), 3);
+        check.row("three(0, 2)", x, -1000L * 36 / (21 * 14), -1000L * 36 * 21 / 114, -1000L * 21 / (36 * 26));
+        check.same("another way", x.three(0, 1), -2);
+        check.same("another sort", x.three(1, 2), -2);
+        check.same("way 4", x.three(0, 4), -1);
+        check.same("way -1", x.three(0, -1), -1);
+        check.same("sort 4", x.three(4, 0), -1);
+        check.same("sort -1", x.three(-1, 0), -1);
+        check.row("the row stays", x, -122, -6631, -22);
+        BinsThatTell y = town();
+        three(y, 0, 5, 1, 1);
+        three(y, 1, 5, 2, 3);
+        check.same("all bags alike", y.three(0, 2), -2);
+    }
+
+    private static void threesOfManyLargeNumbers() {
+        BinsThatTell x = new BinsThatTell();
+        x.sort(50, 0, 100);
+        for (int i = 0; i < 8; i++) {
+            x.street(1);
+        }
+        for (int cell = 0; cell < 96; cell++) {
+            three(x, cell, cell < 48 ? 0 : 999, cell < 48 ? 999 : 0, cell % 2 == 0 ? 999 : cell < 48 ? 1 : 2);
+        }
+        check.same("96 cells", x.three(0, 2), 96);
+        java.math.BigInteger[] due = threeDue(x);
+        check.row("96 cells", x, due[0].longValueExact(), due[1].longValueExact(), due[2].longValueExact());
+        for (int cell = 0; cell < 96; cell++) {
+            three(x, cell, cell < 48 ? 0 : 999, cell < 48 ? 999 : 0, cell < 48 ? 0 : 999);
+        }
+        check.same("all alike", x.three(0, 2), 96);
+        check.row("all alike", x, 1000, 1000, 1000);
+    }
+
+    private static java.math.BigInteger[] threeDue(BinsThatTell x) {
+        java.math.BigInteger[] due = new java.math.BigInteger[3];
+        for (int i = 0; i < 3; i++) {
+            java.math.BigInteger upper = spread(x, i, (i + 1) % 3).multiply(spread(x, i, (i + 2) % 3));
+            java.math.BigInteger lower = spread(x, (i + 1) % 3, (i + 2) % 3).multiply(spread(x, i, i));
+            due[i] = upper.multiply(java.math.BigInteger.valueOf(1000)).divide(lower);
+        }
+        return due;
+    }
+
+    private static java.math.BigInteger spread(BinsThatTell x, int one, int other) {
+        int[] kinds = {0, 1, 4};
+        long ones = 0;
+        long others = 0;
+        long both = 0;
+        for (int cell = 0; cell < 96; cell++) {
+            long a = x.get(kinds[one], cell, 0);
+            long b = x.get(kinds[other], cell, 0);
+            ones += a;
+            others += b;
+            both += a * b;
+        }
+        return java.math.BigInteger.valueOf(96 * both - ones * others);
+    }
+
+    private static void slopes() {
+        BinsThatTell x = town();
+        check.same("no cells", x.slope(0, 2), -2);
+        three(x, 0, 1, 2, 1);
+        check.same("one cell", x.slope(0, 2), -2);
+        three(x, 13, 2, 1, 5);
+        check.same("two cells", x.slope(0, 2), 0);
+        check.row("two cells", x, -4, 1);
+        three(x, 5, 4, 9, 2);
+        check.same("three cells", x.slope(0, 2), 0);
+        check.row("three cells", x, 1, 36);
+        BinsThatTell y = town();
+        three(y, 0, 1, 2, 1);
+        three(y, 1, 2, 2, 5);
+        check.same("shops alike", y.slope(0, 2), -2);
+        check.same("another way", x.slope(0, 1), -2);
+        check.same("way 4", x.slope(0, 4), -1);
+        check.same("way -1", x.slope(0, -1), -1);
+        check.same("sort 4", x.slope(4, 0), -1);
+        check.same("sort -1", x.slope(-1, 0), -1);
+        check.row("the row stays", x, 1, 36);
+    }
+
+    /** Tells SHOP, SAID by WAY 1 and of neighbours. */
+    private static void neighbours(BinsThatTell x, int cell, int shop, int said, int neighbours) {
+        said(x, 0, cell, 1, shop, said);
+        x.put(5, cell, 0, neighbours);
+    }
+
+    private static void others() {
+        BinsThatTell x = town();
+        check.same("no cells", x.others(0, 1), 0);
+        check.row("no cells", x, 0, 0);
+        neighbours(x, 0, 10, 5, 12);
+        neighbours(x, 1, 10, 9, 12);
+        neighbours(x, 2, 10, 8, 12);
+        // 7 and 12 are 9 (cut): as near as neither.
+        neighbours(x, 13, 10, 7, 12);
+        // 9 and 12 are 10 (cut).
+        x.put(1, 20, 0, 1);
+        x.put(3, 20, 0, 1);
+        check.same("others(0, 1)", x.others(0, 1), 2);
+        check.row("others(0, 1)", x, 1, 3);
+        neighbours(x, 14, 10, 10, 10);
+        check.same("alike", x.others(0, 1), 2);
+        check.row("alike", x, 1, 3);
+        check.same("another way", x.others(0, 0), 0);
+        check.row("another way", x, 0, 0);
+        x.others(0, 1);
+        check.same("way 3", x.others(0, 3), -1);
+        check.same("way -1", x.others(0, -1), -1);
+        check.same("sort 4", x.others(4, 0), -1);
+        check.same("sort -1", x.others(-1, 0), -1);
+        check.row("the row stays", x, 1, 3);
+    }
+
+    private static void worths() {
+        BinsThatTell x = town();
+        check.same("no cells", x.worth(0, 1), -2);
+        neighbours(x, 0, 10, 10, 20);
+        check.same("own words", x.worth(0, 1), 0);
+        check.row("own words", x, 0);
+        neighbours(x, 0, 10, 20, 10);
+        check.same("neighbours' words", x.worth(0, 1), 100);
+        check.row("neighbours' words", x, 0);
+        neighbours(x, 0, 10, 7, 11);
+        check.same("three of four", x.worth(0, 1), 75);
+        check.row("three of four", x, 0);
+        neighbours(x, 0, 10, 20, 20);
+        check.same("all alike: the least", x.worth(0, 1), 0);
+        check.row("all alike: the least", x, 1000000);
+        neighbours(x, 0, 10, 7, 16);
+        // A third of them: 33 gives 700 + 297, 34 gives 700 + 306.
+        check.same("a third", x.worth(0, 1), 33);
+        check.row("a third", x, 9);
+        neighbours(x, 1, 0, 0, 999);
+        check.same("two cells", x.worth(0, 1), 0);
+        check.row("two cells", x, 90000);
+        check.same("way 3", x.worth(0, 3), -1);
+        check.same("way -1", x.worth(0, -1), -1);
+        check.same("sort 4", x.worth(4, 0), -1);
+        check.same("sort -1", x.worth(-1, 0), -1);
+        check.same("another way", x.worth(0, 2), -2);
+        check.row("the row stays", x, 90000);
+    }
+}
