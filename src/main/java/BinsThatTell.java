@@ -394,11 +394,13 @@ public final class BinsThatTell {
         private int r = 1;
 
         Numbers() {
-            Arrays.fill(now, NONE);
+            for (int place = 0; place < ALL; place++) {
+                now[place] = NONE;
+            }
         }
 
         private static int placeOf(int kind, int cell, int sort) {
-            boolean inside = isKind(kind) && between(cell, 0, CELLS - 1) && between(sort, 0, MOST - 1);
+            boolean inside = kind >= 0 && kind < KINDS && cell >= 0 && cell < CELLS && sort >= 0 && sort < MOST;
             return inside ? (kind * CELLS + cell) * MOST + sort : NONE;
         }
 
@@ -420,8 +422,8 @@ public final class BinsThatTell {
         }
 
         void addToBag(int cell, int sort, int pieces) {
-            int before = has(BAG, cell, sort) ? of(BAG, cell, sort) : 0;
-            change(BAG, cell, sort, within(before + pieces, 0, GREATEST));
+            int before = Math.max(0, of(BAG, cell, sort));
+            change(BAG, cell, sort, Math.min(GREATEST, before + pieces));
         }
 
         int draw(int n) {
@@ -520,7 +522,8 @@ public final class BinsThatTell {
         }
 
         int signAt(int i, int p) {
-            return p >= 0 && p < sizeOf(i) ? signs[i * LONGEST + p] : NONE;
+            boolean inside = i >= 0 && i < TEXTS && p >= 0 && p < sizes[i];
+            return inside ? signs[i * LONGEST + p] : NONE;
         }
     }
 
@@ -542,8 +545,9 @@ public final class BinsThatTell {
         private int open;
         private int digits;
         private int compared;
-        // Of what is reckoned: the sign that is next.
+        // Of what is reckoned: the sign that is next, and how many there are.
         private int at;
+        private int till;
 
         Laws(Numbers numbers) {
             this.numbers = numbers;
@@ -651,12 +655,10 @@ public final class BinsThatTell {
 
         /** What a law comes to; without it the other number. */
         int reckon(int law, int without) {
-            if (sizeOf(law) == 0) {
-                return without;
-            }
             which = law;
             at = 0;
-            return either(0);
+            till = sizeOf(law);
+            return till == 0 ? without : either(0);
         }
 
         private int here() {
@@ -665,7 +667,7 @@ public final class BinsThatTell {
 
         private int either(int depth) {
             int left = both(depth);
-            while (at < sizeOf(which) && here() == '|') {
+            while (at < till && here() == '|') {
                 at++;
                 int right = both(depth);
                 left = left != 0 || right != 0 ? 1 : 0;
@@ -675,7 +677,7 @@ public final class BinsThatTell {
 
         private int both(int depth) {
             int left = comparison(depth);
-            while (at < sizeOf(which) && here() == '&') {
+            while (at < till && here() == '&') {
                 at++;
                 int right = comparison(depth);
                 left = left != 0 && right != 0 ? 1 : 0;
@@ -697,7 +699,7 @@ public final class BinsThatTell {
 
         private int added(int depth) {
             int left = multiplied(depth);
-            while (at < sizeOf(which) && (here() == '+' || here() == '-')) {
+            while (at < till && (here() == '+' || here() == '-')) {
                 boolean plus = here() == '+';
                 at++;
                 int right = multiplied(depth);
@@ -708,7 +710,7 @@ public final class BinsThatTell {
 
         private int multiplied(int depth) {
             int left = thing(depth);
-            while (at < sizeOf(which) && (here() == '*' || here() == '/')) {
+            while (at < till && (here() == '*' || here() == '/')) {
                 boolean times = here() == '*';
                 at++;
                 int right = thing(depth);
@@ -719,13 +721,13 @@ public final class BinsThatTell {
 
         private int thing(int depth) {
             int from = at;
-            while (at < sizeOf(which) && (here() == '!' || here() == '-')) {
+            while (at < till && (here() == '!' || here() == '-')) {
                 at++;
             }
-            int till = at;
+            int bare = at;
             int value = bareThing(depth);
             // The sign that stands nearest to the thing comes first.
-            for (int p = till - 1; p >= from; p--) {
+            for (int p = bare - 1; p >= from; p--) {
                 value = signAt(which, p) == '-' ? -value : value == 0 ? 1 : 0;
             }
             return value;
@@ -734,31 +736,21 @@ public final class BinsThatTell {
         private int bareThing(int depth) {
             int sign = here();
             if (isDigit(sign)) {
-                return number();
+                int number = 0;
+                while (at < till && isDigit(here())) {
+                    number = number * 10 + here() - '0';
+                    at++;
+                }
+                return number;
             }
             at++;
-            if (sign == 'z') {
-                return numbers.draw(10);
-            }
-            if (sign != '(') {
-                int i = sign - 'a';
-                return i >= 0 && i < known.length ? known[i] : 0;
-            }
-            if (depth >= DEEPEST) {
-                return 0;
-            }
-            int value = either(depth + 1);
-            at++;
-            return value;
-        }
-
-        private int number() {
-            int value = 0;
-            while (at < sizeOf(which) && isDigit(here())) {
-                value = value * 10 + here() - '0';
+            if (sign == '(' && depth < DEEPEST) {
+                int value = either(depth + 1);
                 at++;
+                return value;
             }
-            return value;
+            int i = sign - 'a';
+            return sign == 'z' ? numbers.draw(10) : i >= 0 && i < known.length ? known[i] : 0;
         }
     }
 
@@ -1156,7 +1148,8 @@ public final class BinsThatTell {
                 return NOT_HAD;
             }
             int byRight = Integer.compare(town.rightOf(one), town.rightOf(other));
-            return Integer.signum(byRight * compareFractions(oneSum, oneCells, sum, cells));
+            int both = byRight * compareFractions(oneSum, oneCells, sum, cells);
+            return both > 0 ? 1 : both < 0 ? -1 : 0;
         }
 
         /** Gathers CELLS in which BAG, SHOP and SAID by this WAY are told. */
@@ -1287,35 +1280,38 @@ public final class BinsThatTell {
             if (!town.hasSort(sort) || !between(way, 0, NEIGHBOURS - 1)) {
                 return NONE;
             }
-            int best = NOT_HAD;
-            long bestSquares = 0;
-            for (int share = 0; share <= 100; share++) {
-                long squares = squaresWith(sort, way, share);
-                if (squares >= 0 && (best < 0 || squares < bestSquares)) {
+            boolean any = false;
+            long more = 0;
+            long both = 0;
+            long without = 0;
+            // What is squared is the share times what neighbours say more, and a hundred times what the
+            // other WAY is off: by these three sums the square of each share is had at once.
+            for (int cell = 0; cell < town.cellCount(); cell++) {
+                if (hasNeighbours(sort, way, cell)) {
+                    long own = numbers.of(SAID + way, cell, sort);
+                    long neighbours = numbers.of(SAID + NEIGHBOURS, cell, sort) - own;
+                    long off = 100 * (own - numbers.of(SHOP, cell, sort));
+                    more += neighbours * neighbours;
+                    both += neighbours * off;
+                    without += off * off;
+                    any = true;
+                }
+            }
+            return any ? leastShare(more, both, without) : NOT_HAD;
+        }
+
+        private int leastShare(long more, long both, long without) {
+            int best = 0;
+            long bestSquares = without;
+            for (int share = 1; share <= 100; share++) {
+                long squares = more * share * share + 2 * both * share + without;
+                if (squares < bestSquares) {
                     best = share;
                     bestSquares = squares;
                 }
             }
-            if (best >= 0) {
-                row.clear().add(bestSquares);
-            }
+            row.clear().add(bestSquares);
             return best;
-        }
-
-        /** NONE: there is no such CELL. */
-        private long squaresWith(int sort, int way, int share) {
-            long squares = 0;
-            boolean any = false;
-            for (int cell = 0; cell < town.cellCount(); cell++) {
-                if (hasNeighbours(sort, way, cell)) {
-                    long neighbours = (long) share * numbers.of(SAID + NEIGHBOURS, cell, sort);
-                    long own = (long) (100 - share) * numbers.of(SAID + way, cell, sort);
-                    long off = neighbours + own - 100L * numbers.of(SHOP, cell, sort);
-                    squares += off * off;
-                    any = true;
-                }
-            }
-            return any ? squares : NONE;
         }
     }
 
@@ -1806,7 +1802,7 @@ public final class BinsThatTell {
         private final int[] layers = new int[PAPERS];
         private final int[] firsts = new int[PAPERS];
         private final int[] lasts = new int[PAPERS];
-        // Of each PAPER those (bits) that do not go together with it.
+        // Of each PAPER those told ahead of it (bits) that do not go together with it.
         private final int[] clashes = new int[PAPERS];
         private int papers;
 
@@ -1831,7 +1827,6 @@ public final class BinsThatTell {
             for (int other = 0; other < papers; other++) {
                 if (clash(other, papers) || clash(papers, other)) {
                     clashes[papers] |= 1 << other;
-                    clashes[other] |= 1 << papers;
                 }
             }
             papers++;

@@ -52,6 +52,14 @@ public final class AnswersTest {
         check.same("sort -1", x.off(-1, 0), -1);
         check.same("way 4", x.off(0, 4), -1);
         check.same("way -1", x.off(0, -1), -1);
+        said(x, 2, 0, 0, 5, 9);
+        said(x, 2, 1, 0, 5, 8);
+        check.same("all too much", x.off(2, 0), 2);
+        check.row("all too much", x, 7, 2, 3, 4);
+        said(x, 3, 0, 0, 5, 1);
+        said(x, 3, 1, 0, 5, 2);
+        check.same("all too little", x.off(3, 0), 2);
+        check.row("all too little", x, -7, 2, -4, -3);
         said(x, 1, 0, 3, 5, 5);
         check.same("way 3", x.off(1, 3), 1);
         check.row("way 3", x, 0, 1, 0, 0);
@@ -80,6 +88,9 @@ public final class AnswersTest {
         check.row("-1 is nearer", x, 0, 1);
         check.same("none", x.nearest(1), -2);
         check.row("the row stays", x, 0, 1);
+        said(x, 1, 0, 0, 10, 11);
+        check.same("one too much", x.nearest(1), 0);
+        check.row("one too much", x, 1, 0);
     }
 
     private static void worst() {
@@ -100,6 +111,16 @@ public final class AnswersTest {
         said(x, 3, 12, 0, 10, 10);
         check.same("of equal ones the first", x.worst(0, 1), 2);
         check.row("of equal ones the first", x, -5, 2);
+        said(x, 0, 23, 0, 10, 18);
+        check.same("the first sort", x.worst(0, 0), 0);
+        check.row("the first sort", x, 8, 1);
+        x.put(2, 23, 0, 0);
+        check.same("the first sort", x.worst(0, 1), 0);
+        check.row("the first sort", x, -10, 1);
+        check.same("the others", x.worst(0, 0), 1);
+        check.row("the others", x, -2, 1);
+        x.put(2, 23, 0, -1);
+        x.worst(0, 1);
         check.same("none", x.worst(1, 0), -2);
         check.same("way 4", x.worst(4, 0), -1);
         check.same("way -1", x.worst(-1, 0), -1);
@@ -122,6 +143,17 @@ public final class AnswersTest {
         // With the fourth one: 0 and it alike; 1 greater; 2 lesser.
         check.same("four sorts", x.right(2), 2);
         check.row("four sorts", x, 2, 2);
+        BinsThatTell y = town();
+        said(y, 0, 0, 1, 10, 12);
+        said(y, 3, 0, 1, 10, 11);
+        check.same("one pair", y.right(1), 1);
+        check.row("one pair", y, 0, 0);
+        y.put(3, 0, 3, 13);
+        check.same("one pair", y.right(1), 0);
+        check.row("one pair", y, 1, 0);
+        y.put(3, 0, 3, 12);
+        check.same("one pair", y.right(1), 0);
+        check.row("one pair", y, 0, 1);
         check.same("way 4", x.right(4), -1);
         check.same("way -1", x.right(-1), -1);
         check.row("the row stays", x, 2, 2);
@@ -159,6 +191,20 @@ public final class AnswersTest {
         three(y, 0, 5, 1, 1);
         three(y, 1, 5, 2, 3);
         check.same("all bags alike", y.three(0, 2), -2);
+        y.put(0, 1, 0, 6);
+        check.same("two cells", y.three(0, 2), 2);
+        check.row("two cells", y, 1000, 1000, 1000);
+        // Shop and said, said and bag, bag and shop do not go together: one lower number is 0.
+        int[][] rows = {{1, 2, 4}, {0, 1, 2}, {1, 0, 1}};
+        for (int turn = 0; turn < 3; turn++) {
+            BinsThatTell z = town();
+            for (int cell = 0; cell < 3; cell++) {
+                three(z, cell, rows[turn][cell], rows[(turn + 1) % 3][cell], rows[(turn + 2) % 3][cell]);
+            }
+            check.same("one lower number is 0", z.three(0, 2), -2);
+            three(z, 2, 50, 51, 52);
+            check.same("none is 0", z.three(0, 2), 3);
+        }
     }
 
     private static void threesOfManyLargeNumbers() {
@@ -251,6 +297,13 @@ public final class AnswersTest {
         neighbours(x, 14, 10, 10, 10);
         check.same("alike", x.others(0, 1), 2);
         check.row("alike", x, 1, 3);
+        x.put(3, 14, 0, -1);
+        x.put(5, 14, 0, 0);
+        check.same("own words not told", x.others(0, 1), 2);
+        check.row("own words not told", x, 1, 3);
+        said(x, 0, 14, 2, 10, 4);
+        check.same("way 2", x.others(0, 2), 0);
+        check.row("way 2", x, 1, 0);
         check.same("another way", x.others(0, 0), 0);
         check.row("another way", x, 0, 0);
         x.others(0, 1);
@@ -280,6 +333,20 @@ public final class AnswersTest {
         // A third of them: 33 gives 700 + 297, 34 gives 700 + 306.
         check.same("a third", x.worth(0, 1), 33);
         check.row("a third", x, 9);
+        neighbours(x, 0, 10, 0, 5);
+        check.same("no more than a hundred", x.worth(0, 1), 100);
+        check.row("no more than a hundred", x, 250000);
+        neighbours(x, 0, 10, 15, 20);
+        check.same("no less than none", x.worth(0, 1), 0);
+        check.row("no less than none", x, 250000);
+        said(x, 0, 0, 0, 10, 0);
+        check.same("way 0", x.worth(0, 0), 50);
+        check.row("way 0", x, 0);
+        said(x, 0, 0, 2, 10, 5);
+        check.same("way 2: a third", x.worth(0, 2), 33);
+        check.row("way 2: a third", x, 25);
+        x.put(4, 0, 0, -1);
+        neighbours(x, 0, 10, 7, 16);
         neighbours(x, 1, 0, 0, 999);
         check.same("two cells", x.worth(0, 1), 0);
         check.row("two cells", x, 90000);

@@ -56,6 +56,13 @@ public final class LackTest {
         bought(x, 0, 2, 9, 3);
         check.same("cut, each", x.waste(0), 1);
         check.row("cut, each", x, 1, 5, 0, 1);
+        bought(x, 0, 3, 0, -1);
+        bought(x, 0, 15, 1, 3);
+        check.same("one sold in lack", x.waste(0), 1);
+        check.row("one sold in lack", x, 3, 1, 0, 1);
+        bought(x, 0, 15, 900, 315);
+        check.same("35 of a hundred", x.waste(0), 0);
+        check.row("35 of a hundred", x, 0, 1, 0, 1);
         x.lack(0, 3, false);
         check.same("no lack", x.waste(0), -2);
         for (int week = 0; week < 12; week++) {
@@ -64,7 +71,7 @@ public final class LackTest {
         check.same("lack alone", x.waste(0), -2);
         check.same("sort 3", x.waste(3), -1);
         check.same("sort -1", x.waste(-1), -1);
-        check.row("the row stays", x, 1, 5, 0, 1);
+        check.row("the row stays", x, 0, 1, 0, 1);
     }
 
     private static void storyPlaces() {
@@ -141,6 +148,18 @@ public final class LackTest {
         Check.story(x, "W=W;n=n;B=S");
         check.same("holds(1)", x.holds(1), 5);
         check.row("holds(1)", x, 0, 8, 0, 1);
+        BinsThatTell y = town();
+        y.lack(1, 0, true);
+        bought(y, 1, 0, 2, 8);
+        bought(y, 1, 1, 1, 1);
+        Check.story(y, "W=S;W>n;N<w;w<n");
+        y.put(2, 0, 1, 3);
+        y.put(5, 2, 1, 2);
+        y.put(5, 3, 1, 1);
+        y.put(5, 0, 1, 0);
+        // W 3, w 0; S 3; N 0, n 3 by 2: all but the third.
+        check.same("wastes and means", y.holds(1), 0);
+        check.row("wastes and means", y, 1);
         // A mean without its bag is had, a waste is not.
         x.put(0, 1, 1, -1);
         check.same("waste", x.waste(1), -2);

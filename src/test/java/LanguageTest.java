@@ -143,7 +143,7 @@ public final class LanguageTest {
         }
         Matcher library = Pattern.compile("\\b(System|Arrays|Math|Integer|Long)\\.(\\w+)").matcher(code);
         List<String> allowed = List.of("System.arraycopy", "Arrays.fill", "Math.abs", "Math.max", "Math.min",
-            "Integer.compare", "Integer.signum", "Integer.bitCount", "Integer.numberOfTrailingZeros", "Long.compare");
+            "Integer.compare", "Integer.bitCount", "Integer.numberOfTrailingZeros", "Long.compare");
         while (library.find()) {
             String call = library.group(1) + "." + library.group(2);
             is(call + " is of the library", call.startsWith("Arrays.") ? call.equals("Arrays.fill") : allowed.contains(call));

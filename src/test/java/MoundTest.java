@@ -77,6 +77,8 @@ public final class MoundTest {
         check.same("without papers", x.stray(), 0);
         check.row("without papers", x, 0);
         x.paper(0, 1950, 1950);
+        check.same("one alone", x.stray(), 0);
+        check.row("one alone", x, 0);
         x.paper(1, 1960, 1960);
         check.same("one of two: the least", x.stray(), 1);
         check.row("one of two: the least", x, 1);

@@ -44,6 +44,12 @@ public final class MovedTest {
         x.put(0, 23, 0, -1);
         check.same("both must be told", x.moved(0, 11), 1);
         check.row("both must be told", x, 1, 1, 4);
+        x.put(0, 11, 0, 10);
+        x.put(1, 35, 0, 900);
+        check.same("33 of a hundred", x.moved(0, 11), 0);
+        check.row("33 of a hundred", x, 295, 0, 4);
+        x.put(0, 11, 0, 11);
+        x.put(1, 35, 0, 10);
         check.same("another sort", x.moved(1, 11), 0);
         x.moved(0, 11);
         check.same("sort 2", x.moved(2, 0), -1);
@@ -216,6 +222,23 @@ public final class MovedTest {
         check.same("another sort", x.does(1, 1, 2), -2);
         x.told(1, 0);
         check.same("all told", x.does(1, 0, 2), -2);
+        BinsThatTell y = town(2);
+        y.told(0, 3);
+        int[] cells = {2, 3, 14, 15};
+        for (int cell : cells) {
+            y.put(0, cell, 0, 7);
+        }
+        for (int cell : cells) {
+            y.put(0, cell, 0, -1);
+            check.same("one of four is not told", y.does(0, 0, 3), -2);
+            y.put(0, cell, 0, 7);
+        }
+        y.put(0, 3, 0, 8);
+        check.same("one more", y.does(0, 0, 3), 1);
+        check.row("one more", y, 1, 1);
+        y.put(0, 15, 0, 9);
+        check.same("one less", y.does(0, 0, 3), 2);
+        check.row("one less", y, -1, 1);
         check.same("kind 6", x.does(6, 0, 1), -1);
         check.same("kind -1", x.does(-1, 0, 1), -1);
         check.same("sort 2", x.does(0, 2, 1), -1);

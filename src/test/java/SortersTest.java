@@ -86,7 +86,10 @@ public final class SortersTest {
         x.twice(1, 1, 50);
         check.same("alike alone", x.mixed(), 0);
         check.noRow("alike alone", x, 0);
-        x.twice(2, 1, 3);
+        x.twice(2, 1, 1);
+        check.same("one piece", x.mixed(), 1);
+        check.row("one piece", x, 1, 2);
+        x.twice(2, 1, 2);
         check.same("one pair", x.mixed(), 3);
         check.row("one pair", x, 1, 2);
         x.twice(0, 2, 1);

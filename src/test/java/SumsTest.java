@@ -103,6 +103,8 @@ public final class SumsTest {
         // 9 PIECES: 30 eaten at least without waste; said 29.
         check.same("more", x.line(0, 2, 0), 1);
         check.row("more", x, 30, 1, 29);
+        check.same("all waste", x.line(0, 2, 100), 0);
+        check.row("all waste", x, 0, 1, 29);
         check.same("waste", x.line(0, 2, 10), 0);
         check.row("waste", x, 27, 1, 29);
         x.put(4, 35, 0, 10);

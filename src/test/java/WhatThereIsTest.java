@@ -67,6 +67,10 @@ public final class WhatThereIsTest {
         check.same("sort -1", x.goes(-1, 0, 0, 0), false);
         x.put(0, 0, 0, 1);
         check.same("all goes still", x.bounds(0, 0, 0), -3);
+        check.same("all to the sink", x.goes(0, 100, 0, 0), true);
+        check.same("all back", x.goes(0, 0, 100, 0), true);
+        check.same("all to the corner", x.goes(0, 0, 0, 100), true);
+        check.same("all goes", x.bounds(0, 0, 0), -3);
         check.same("back to nothing", x.goes(0, 0, 0, 0), true);
         check.same("nothing goes", x.bounds(0, 0, 0), 0);
     }
@@ -523,6 +527,17 @@ public final class WhatThereIsTest {
         check.same("a wrong law", Check.law(x, 0, "5+"), -3);
         x.live(0, 2);
         check.same("the law stays", x.get(1, 2, 0), 0);
+        x.goes(0, 50, 40, 1);
+        Check.law(x, 0, "200");
+        // 200 are thrown: 100 to the sink, 80 back, 2 to the corner.
+        check.same("half to the sink", x.live(0, 3), 18);
+        Check.law(x, 0, "100");
+        check.same("one to the corner", x.live(0, 4), 9);
+        check.same("one comes back", x.get(0, 4, 0), 10);
+        Check.law(x, 0, "199");
+        // 99.5, 79.6, 1.99, each cut.
+        check.same("each cut", x.live(0, 5), 199 - 99 - 79 - 1);
+        x.goes(0, 0, 0, 0);
         check.same("a new law", Check.law(x, 0, "5"), 0);
         x.live(0, 2);
         check.same("the law is new", x.get(1, 2, 0), 5);
