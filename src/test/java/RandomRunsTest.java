@@ -269,8 +269,9 @@ public final class RandomRunsTest {
         x.end(0);
         model.end(0);
         String text = expression(0, i);
-        while (text.length() > 60 || text.length() > 40 && random.nextInt(4) > 0) {
-            text = expression(0, i);
+        boolean goesOn = random.nextInt(4) == 0;
+        while (goesOn && text.length() < 36 + random.nextInt(10)) {
+            text += "|&+-*/".charAt(random.nextInt(6)) + expression(1, i);
         }
         tell(shortened(spoiled(text, "htwkrlqzbe()!-+*/<>=&|0123456789 xX")));
         return same("law " + i, x.law(i), model.law(i));
