@@ -1,3 +1,5 @@
+import java.math.BigInteger;
+
 /** Promises 17 to 24: answers. */
 public final class AnswersTest {
     private static final Check check = new Check();
@@ -208,47 +210,52 @@ public final class AnswersTest {
     }
 
     private static void threesOfManyLargeNumbers() {
+        long[][] unlike = new long[3][96];
+        long[][] alike = new long[3][96];
+        for (int cell = 0; cell < 96; cell++) {
+            boolean first = cell < 48;
+            unlike[0][cell] = alike[0][cell] = first ? 0 : 999;
+            unlike[1][cell] = alike[1][cell] = first ? 999 : 0;
+            unlike[2][cell] = cell % 2 == 0 ? 999 : first ? 1 : 2;
+            alike[2][cell] = first ? 0 : 999;
+        }
+        threeOfAll("96 cells", unlike, threeDue(unlike));
+        threeOfAll("all alike", alike, 1000, 1000, 1000);
+    }
+
+    private static void threeOfAll(String call, long[][] numbers, long... due) {
         BinsThatTell x = new BinsThatTell();
         x.sort(50, 0, 100);
         for (int i = 0; i < 8; i++) {
             x.street(1);
         }
         for (int cell = 0; cell < 96; cell++) {
-            three(x, cell, cell < 48 ? 0 : 999, cell < 48 ? 999 : 0, cell % 2 == 0 ? 999 : cell < 48 ? 1 : 2);
+            three(x, cell, (int) numbers[0][cell], (int) numbers[1][cell], (int) numbers[2][cell]);
         }
-        check.same("96 cells", x.three(0, 2), 96);
-        java.math.BigInteger[] due = threeDue(x);
-        check.row("96 cells", x, due[0].longValueExact(), due[1].longValueExact(), due[2].longValueExact());
-        for (int cell = 0; cell < 96; cell++) {
-            three(x, cell, cell < 48 ? 0 : 999, cell < 48 ? 999 : 0, cell < 48 ? 0 : 999);
-        }
-        check.same("all alike", x.three(0, 2), 96);
-        check.row("all alike", x, 1000, 1000, 1000);
+        check.same(call, x.three(0, 2), 96);
+        check.row(call, x, due);
     }
 
-    private static java.math.BigInteger[] threeDue(BinsThatTell x) {
-        java.math.BigInteger[] due = new java.math.BigInteger[3];
+    private static long[] threeDue(long[][] numbers) {
+        long[] due = new long[3];
         for (int i = 0; i < 3; i++) {
-            java.math.BigInteger upper = spread(x, i, (i + 1) % 3).multiply(spread(x, i, (i + 2) % 3));
-            java.math.BigInteger lower = spread(x, (i + 1) % 3, (i + 2) % 3).multiply(spread(x, i, i));
-            due[i] = upper.multiply(java.math.BigInteger.valueOf(1000)).divide(lower);
+            BigInteger upper = spread(numbers, i, (i + 1) % 3).multiply(spread(numbers, i, (i + 2) % 3));
+            BigInteger lower = spread(numbers, (i + 1) % 3, (i + 2) % 3).multiply(spread(numbers, i, i));
+            due[i] = upper.multiply(BigInteger.valueOf(1000)).divide(lower).longValueExact();
         }
         return due;
     }
 
-    private static java.math.BigInteger spread(BinsThatTell x, int one, int other) {
-        int[] kinds = {0, 1, 4};
+    private static BigInteger spread(long[][] numbers, int one, int other) {
         long ones = 0;
         long others = 0;
         long both = 0;
         for (int cell = 0; cell < 96; cell++) {
-            long a = x.get(kinds[one], cell, 0);
-            long b = x.get(kinds[other], cell, 0);
-            ones += a;
-            others += b;
-            both += a * b;
+            ones += numbers[one][cell];
+            others += numbers[other][cell];
+            both += numbers[one][cell] * numbers[other][cell];
         }
-        return java.math.BigInteger.valueOf(96 * both - ones * others);
+        return BigInteger.valueOf(96 * both - ones * others);
     }
 
     private static void slopes() {

@@ -5,14 +5,19 @@ import java.util.Random;
 
 /** All promises: random runs (always the same ones), each answer compared with that of the model. */
 public final class RandomRunsTest {
-    private static final int RUNS = 400;
-    private static final int CALLS = 200;
+    private static final int RUNS = 1500;
+    // What is answered later is free.
+    private static final int CALLS = 512;
+    // The most that one turn needs: a text, the call itself, the ROW, all counts.
+    private static final int TURN = 45;
 
     private final Random random;
     private final BinsThatTell x = new BinsThatTell();
     private final Model model = new Model();
     private final List<String> calls = new ArrayList<>();
     private int greatest;
+    private int odds;
+    private int used;
 
     private RandomRunsTest(long seed) {
         random = new Random(seed);
@@ -35,11 +40,20 @@ public final class RandomRunsTest {
     }
 
     private boolean isRight() {
-        if (!begin()) {
+        if (!begin() || !rowIsRight() || !countsAreRight()) {
             return false;
         }
-        for (int call = 0; call < CALLS; call++) {
-            if (!one(random.nextInt(62)) || !rowIsRight()) {
+        // Each run likes some calls, so that what they do together comes up.
+        int[] liked = new int[10];
+        for (int i = 0; i < liked.length; i++) {
+            liked[i] = random.nextInt(62);
+        }
+        while (used + TURN <= CALLS) {
+            int which = random.nextInt(3) > 0 ? liked[random.nextInt(liked.length)] : random.nextInt(62);
+            if (!one(which) || !rowIsRight()) {
+                return false;
+            }
+            if (random.nextInt(10) == 0 && !countsAreRight()) {
                 return false;
             }
         }
@@ -48,10 +62,13 @@ public final class RandomRunsTest {
 
     /** A town in which much is told, so that answers can be had. */
     private boolean begin() {
+        // In some runs every third number is one that can hardly be taken.
+        odds = random.nextInt(8) == 0 ? 3 : 40;
         int[] tops = {3, 12, 100, 999};
         greatest = tops[random.nextInt(4)];
-        int sorts = random.nextInt(10);
-        int streets = random.nextInt(10);
+        boolean few = random.nextBoolean();
+        int sorts = few ? 1 + random.nextInt(3) : random.nextInt(10);
+        int streets = few ? 1 + random.nextInt(3) : random.nextInt(10);
         boolean right = true;
         for (int i = 0; i < sorts; i++) {
             right &= one(0);
@@ -59,23 +76,50 @@ public final class RandomRunsTest {
         for (int i = 0; i < streets; i++) {
             right &= one(2);
         }
-        int share = random.nextInt(5);
-        for (int cell = 0; cell < 12 * streets; cell++) {
-            for (int sort = 0; sort < sorts; sort++) {
-                for (int kind = 0; kind < 6; kind++) {
-                    if (random.nextInt(4) < share) {
-                        int v = random.nextInt(greatest + 1);
-                        right &= same("put " + kind + " " + cell + " " + sort + " " + v,
-                            x.put(kind, cell, sort, v), model.put(kind, cell, sort, v));
-                    }
-                }
+        return right && (few ? putMuch() : liveMuch());
+    }
+
+    private boolean putMuch() {
+        boolean right = true;
+        int share = 40 + random.nextInt(220);
+        for (int i = 0; i < share; i++) {
+            int kind = random.nextInt(6);
+            int cell = random.nextInt(Math.max(1, 12 * model.streets.size()));
+            int sort = random.nextInt(Math.max(1, model.sorts.size()));
+            int v = random.nextInt(greatest + 1);
+            right &= same("put " + kind + " " + cell + " " + sort + " " + v,
+                x.put(kind, cell, sort, v), model.put(kind, cell, sort, v));
+        }
+        return right;
+    }
+
+    private boolean liveMuch() {
+        String[] numbers = {"z", "z*z", "z*10+z", "h*z/4+k", "z*z*z", "b-z", "b-z/2", "e+z-4", "e*z/4", "b+k-z*q"};
+        boolean right = true;
+        for (int i = 0; i < 6; i++) {
+            if (random.nextInt(5) > 0) {
+                tell(numbers[random.nextInt(numbers.length)]);
+                right &= same("law " + i, x.law(i), model.law(i));
             }
         }
-        calls.clear();
-        return right && rowIsRight();
+        int lives = random.nextInt(150);
+        for (int i = 0; i < lives; i++) {
+            int street = street();
+            int week = week();
+            right &= same("live " + street + " " + week, x.live(street, week), model.live(street, week));
+        }
+        for (int sort = 0; sort < model.sorts.size(); sort++) {
+            if (random.nextBoolean()) {
+                int step = random.nextInt(greatest + 1) - greatest / 4;
+                right &= same("sheet " + sort + " by " + step,
+                    x.sheet(sort, 2, 96, 0, step), model.sheet(sort, 2, 96, 0, step));
+            }
+        }
+        return right;
     }
 
     private boolean same(String call, long got, long due) {
+        used++;
         calls.add(call + " = " + due);
         if (got != due) {
             calls.add("ANSWERED " + got);
@@ -88,18 +132,30 @@ public final class RandomRunsTest {
         return same(call, got ? 1 : 0, due ? 1 : 0);
     }
 
-    private boolean rowIsRight() {
+    private boolean countsAreRight() {
         for (int what = -1; what <= 9; what++) {
-            if (x.count(what) != model.count(what)) {
-                calls.add("count(" + what + ") " + x.count(what) + ", due is " + model.count(what));
+            used++;
+            int many = x.count(what);
+            if (many != model.count(what)) {
+                calls.add("count(" + what + ") " + many + ", due is " + model.count(what));
                 return false;
             }
         }
-        for (int i = 0; i < model.row.size(); i++) {
-            if (x.row(i) != model.row.get(i)) {
-                calls.add("row(" + i + ") " + x.row(i) + ", due is " + model.row);
-                return false;
+        return true;
+    }
+
+    private boolean rowIsRight() {
+        used += model.row.size() + 1;
+        try {
+            for (int i = 0; i < model.row.size(); i++) {
+                if (x.row(i) != model.row.get(i)) {
+                    calls.add("row(" + i + "), due is " + model.row);
+                    return false;
+                }
             }
+        } catch (NoSuchElementException e) {
+            calls.add("too few in the ROW, due is " + model.row);
+            return false;
         }
         try {
             x.row(model.row.size());
@@ -113,7 +169,7 @@ public final class RandomRunsTest {
     // ---- arguments
 
     private int any(int a, int b) {
-        if (random.nextInt(40) == 0) {
+        if (random.nextInt(odds) == 0) {
             int[] odd = {a - 1, b + 1, -1, Integer.MIN_VALUE, Integer.MAX_VALUE, random.nextInt()};
             return odd[random.nextInt(odd.length)];
         }
@@ -145,6 +201,8 @@ public final class RandomRunsTest {
     }
 
     private void tell(String text) {
+        // With what Check.text asks, and what is asked and ended below.
+        used += 4 + (text.length() + 3) / 4;
         Check.text(x, text);
         String before = model.text;
         for (int p = 0; p < text.length() && model.text.length() < 60; p++) {
@@ -266,6 +324,7 @@ public final class RandomRunsTest {
 
     private boolean law() {
         int i = any(0, 5);
+        used++;
         x.end(0);
         model.end(0);
         String text = expression(0, i);
@@ -326,6 +385,7 @@ public final class RandomRunsTest {
             case 32:
                 return same("waste " + a, x.waste(a), model.waste(a));
             case 33:
+                used++;
                 x.end(0);
                 model.end(0);
                 tell(shortened(spoiled(story(), "WwBbEeNnSs<>=;x ")));
