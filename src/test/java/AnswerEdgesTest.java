@@ -18,6 +18,7 @@ public final class AnswerEdgesTest {
         othersJustAsNear();
         worthShares();
         wastesOfNothing();
+        storySigns();
         storiesOfWhatIsHad();
         partsOfEqual();
         sorters();
@@ -415,6 +416,31 @@ public final class AnswerEdgesTest {
         cell(x, 0, 11, 999, 1, -1);
         check.same("much", x.waste(0), 1);
         check.row("much", x, 999, 1, 1, 3);
+    }
+
+    private static void story(String signs, int due) {
+        check.same("story() of " + signs, Check.story(new BinsThatTell(), signs), due);
+    }
+
+    private static void storySigns() {
+        for (char c = 0; c < 256; c++) {
+            boolean thing = "WwBbEeNnSs".indexOf(c) >= 0;
+            boolean two = "<>=".indexOf(c) >= 0;
+            story("" + c, thing ? -2 : -1);
+            story("W" + c, two ? -3 : -2);
+            story("W<" + c, thing ? 0 : -3);
+            story("W<w" + c, c == ';' ? -5 : -4);
+            story("W<w;" + c, thing ? -6 : -5);
+        }
+        String claims = "W<w;".repeat(10);
+        for (int size = 0; size <= 40; size++) {
+            story(claims.substring(0, size), size == 0 || size % 4 == 3 ? 0 : -1 - size);
+        }
+        story(claims + "W", -41);
+        story(claims + "W<w", -41);
+        story(claims + "?", -41);
+        story(claims.substring(0, 39) + "W", -40);
+        story(claims.substring(0, 39) + "WW", -40);
     }
 
     private static void holds(String claim, BinsThatTell x, boolean due) {
