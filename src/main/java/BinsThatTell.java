@@ -1319,8 +1319,13 @@ public final class BinsThatTell {
     private static final class Stories extends Book {
         private static final int STORIES = 6;
         private static final int CLAIM = 4;
-        // Signs by what they stand for: first in LACK, then in other WEEKS.
+        // Signs by what they stand for: first in LACK, then (one more) in other WEEKS.
         private static final String SIGNS = "WwBbEeNnSs";
+        private static final int WASTED = 0;
+        private static final int SOLD = 2;
+        private static final int BINNED = 4;
+        private static final int BY_NEIGHBOURS = 6;
+        private static final int BY_HOUSES = 8;
         private static final int THINGS = 10;
 
         private final Town town;
@@ -1385,26 +1390,26 @@ public final class BinsThatTell {
                 return NONE;
             }
             measureWaste(sort);
-            if (lowers[0] == 0) {
+            if (lowers[WASTED] == 0) {
                 return NOT_HAD;
             }
-            row.clear().addFraction(uppers[0], lowers[0]).addFraction(uppers[1], lowers[1]);
-            int compared = compareFractions(uppers[0], lowers[0], uppers[1], lowers[1]);
+            row.clear().addFraction(uppers[WASTED], lowers[WASTED]).addFraction(uppers[WASTED + 1], lowers[WASTED + 1]);
+            int compared = compareThings(WASTED, WASTED + 1);
             return compared > 0 ? 1 : compared < 0 ? 2 : 0;
         }
 
         private void measureWaste(int sort) {
-            clearThings(0);
+            clearThings(WASTED);
             for (int cell = 0; cell < town.cellCount(); cell++) {
                 if (numbers.has(BAG, cell, sort) && numbers.has(SHOP, cell, sort)) {
                     int sold = numbers.of(SHOP, cell, sort);
                     int wasted = numbers.of(BAG, cell, sort) - sold * town.leavesOf(sort) / 100;
-                    addTo(town.isLack(sort, cell % WEEKS) ? 0 : 1, wasted, sold);
+                    addTo(town.isLack(sort, cell % WEEKS) ? WASTED : WASTED + 1, wasted, sold);
                 }
             }
             // Without one of both there is neither.
-            if (lowers[0] == 0 || lowers[1] == 0) {
-                clearThings(0);
+            if (lowers[WASTED] == 0 || lowers[WASTED + 1] == 0) {
+                clearThings(WASTED);
             }
         }
 
@@ -1434,13 +1439,22 @@ public final class BinsThatTell {
             }
         }
 
+        private boolean isHad(int thing) {
+            return thing >= 0 && thing < THINGS && lowers[thing] > 0;
+        }
+
+        private int compareThings(int one, int other) {
+            boolean had = isHad(one) && isHad(other);
+            return had ? compareFractions(uppers[one], lowers[one], uppers[other], lowers[other]) : 0;
+        }
+
         /** STORIES that hold for a SORT, as bits. */
         private int judge(int sort) {
             measureWaste(sort);
-            measureMeans(sort, SHOP, 2);
-            measureMeans(sort, BAG, 4);
-            measureMeans(sort, SAID + NEIGHBOURS, 6);
-            measureMeans(sort, SAID, 8);
+            measureMeans(sort, SHOP, SOLD);
+            measureMeans(sort, BAG, BINNED);
+            measureMeans(sort, SAID + NEIGHBOURS, BY_NEIGHBOURS);
+            measureMeans(sort, SAID, BY_HOUSES);
             int bits = 0;
             for (int i = 0; i < stories && i < STORIES; i++) {
                 failing[i] = failingOf(i);
@@ -1462,11 +1476,10 @@ public final class BinsThatTell {
         }
 
         private boolean isSo(int one, int sign, int other) {
-            boolean inside = between(one, 0, THINGS - 1) && between(other, 0, THINGS - 1);
-            if (!inside || lowers[one] == 0 || lowers[other] == 0) {
+            if (!isHad(one) || !isHad(other)) {
                 return false;
             }
-            int compared = compareFractions(uppers[one], lowers[one], uppers[other], lowers[other]);
+            int compared = compareThings(one, other);
             return sign == '<' ? compared < 0 : sign == '>' ? compared > 0 : compared == 0;
         }
 
@@ -1611,6 +1624,12 @@ public final class BinsThatTell {
     private static final class Samples {
         // Each of 1 .. 12 divides it, so that MEANS of so many are whole numbers of such parts.
         private static final long PARTS = 27720;
+        // Groups of CELLS: those of STREETS that were told, ahead of WEEK w and since; of those never told.
+        private static final int TOLD_AHEAD = 0;
+        private static final int TOLD_SINCE = 1;
+        private static final int NEVER_AHEAD = 2;
+        private static final int NEVER_SINCE = 3;
+        private static final int GROUPS = 4;
 
         private final Town town;
         private final Numbers numbers;
@@ -1621,8 +1640,8 @@ public final class BinsThatTell {
         private int many;
         private final int[] ways = new int[WEEKS + 1];
         private final int[] nearWays = new int[WEEKS + 1];
-        private final long[] sums = new long[4];
-        private final long[] cells = new long[4];
+        private final long[] sums = new long[GROUPS];
+        private final long[] cells = new long[GROUPS];
 
         Samples(Town town, Numbers numbers, Row row) {
             this.town = town;
@@ -1765,24 +1784,29 @@ public final class BinsThatTell {
                 return NONE;
             }
             gatherGroups(kind, sort, w);
-            if (cells[0] == 0 || cells[1] == 0 || cells[2] == 0 || cells[3] == 0) {
+            long told = cells[TOLD_AHEAD] * cells[TOLD_SINCE];
+            long never = cells[NEVER_AHEAD] * cells[NEVER_SINCE];
+            if (told == 0 || never == 0) {
                 return NOT_HAD;
             }
-            long told = sums[1] * cells[0] - sums[0] * cells[1];
-            long never = sums[3] * cells[2] - sums[2] * cells[3];
-            long upper = told * cells[2] * cells[3] - never * cells[0] * cells[1];
-            row.clear().addFraction(upper, cells[0] * cells[1] * cells[2] * cells[3]);
+            // By how much each went up, times its CELLS ahead of w and since then.
+            long toldUp = sums[TOLD_SINCE] * cells[TOLD_AHEAD] - sums[TOLD_AHEAD] * cells[TOLD_SINCE];
+            long neverUp = sums[NEVER_SINCE] * cells[NEVER_AHEAD] - sums[NEVER_AHEAD] * cells[NEVER_SINCE];
+            long upper = toldUp * never - neverUp * told;
+            row.clear().addFraction(upper, told * never);
             return upper > 0 ? 1 : upper < 0 ? 2 : 0;
         }
 
-        /** 0, 1: STREETS told, ahead of w and from w on; 2, 3: those never told. */
         private void gatherGroups(int kind, int sort, int w) {
             Arrays.fill(sums, 0);
             Arrays.fill(cells, 0);
             for (int cell = 0; cell < town.cellCount(); cell++) {
                 int from = town.toldFromOf(cell / WEEKS);
                 if (from <= w && numbers.has(kind, cell, sort)) {
-                    int group = (from == NONE ? 2 : 0) + (cell % WEEKS < w ? 0 : 1);
+                    boolean ahead = cell % WEEKS < w;
+                    int told = ahead ? TOLD_AHEAD : TOLD_SINCE;
+                    int never = ahead ? NEVER_AHEAD : NEVER_SINCE;
+                    int group = from == NONE ? never : told;
                     sums[group] += numbers.of(kind, cell, sort);
                     cells[group]++;
                 }
